@@ -201,12 +201,12 @@ public final class Gatesquare {
     }
 
     public String primes() {
-        findPrimes();
+        primeList.find(now);
         return primeList.textOf(primeList.everyOne());
     }
 
     public String needed() {
-        findPrimes();
+        primeList.find(now);
         return primeList.textOf(primeList.neededOnes());
     }
 
@@ -416,7 +416,7 @@ public final class Gatesquare {
             case 2:
                 return Integer.bitCount(now.free);
             case 3:
-                findPrimes();
+                primeList.find(now);
                 return primeList.count;
             case 4:
                 return history.count;
@@ -430,13 +430,16 @@ public final class Gatesquare {
     }
 
     public boolean isSound() {
-        return isAlike() == diagram(0).equals(diagram(1))
-                && isCoverSound(false)
-                && isCoverSound(true)
-                && primeList.racesOf(chooseCover(true)) == 0
-                && areTestsSound()
-                && isSumSound()
-                && isBestOrderSound();
+        boolean isOneDiagram = diagram(0).equals(diagram(1));
+        int table = bench.outputTable(now.zero);
+        int calm = chooseCover(true);
+        return (parts() == NONE) == isOneDiagram
+                && isCoverSound(chooseCover(false))
+                && isCoverSound(calm)
+                && primeList.racesOf(calm) == 0
+                && areTestsSound(chooseTests(now.zero))
+                && isSumSound(Tables.productsOf(now.ones, now.lines))
+                && isBestOrderSound(table, findBestOrder(table));
     }
 
     public long digest() {
@@ -530,13 +533,9 @@ public final class Gatesquare {
         return (input & mask) > (input >> half & mask);
     }
 
-    private void findPrimes() {
-        primeList.find(now.lines, now.ones, now.free);
-    }
-
     /** The told cover as a set of numbers of primes. */
     private int chooseCover(boolean isCalm) {
-        findPrimes();
+        primeList.find(now);
         choice.begin(primeList.demandOn(now.ones, isCalm));
         for (int prime = 0; prime < primeList.count; prime++) {
             choice.offer(primeList.demandOn(primeList.inputsAt(prime), isCalm), primeList.signsAt(prime));
@@ -621,14 +620,13 @@ public final class Gatesquare {
 
     // ---- whether all is sound
 
-    private boolean isCoverSound(boolean isCalm) {
-        int inputs = primeList.inputsOf(chooseCover(isCalm));
+    private boolean isCoverSound(int chosen) {
+        int inputs = primeList.inputsOf(chosen);
         int zeros = Tables.all(now.lines) & ~now.ones & ~now.free;
         return (now.ones & ~inputs) == 0 && (inputs & zeros) == 0;
     }
 
-    private boolean areTestsSound() {
-        int chosen = chooseTests(now.zero);
+    private boolean areTestsSound(int chosen) {
         for (int wire = 0; wire < now.zero.wireCount(); wire++) {
             for (int value = 0; value < 2; value++) {
                 int tellers = bench.tellers(now.zero, wire, value);
@@ -640,8 +638,7 @@ public final class Gatesquare {
         return true;
     }
 
-    private boolean isSumSound() {
-        int products = Tables.productsOf(now.ones, now.lines);
+    private boolean isSumSound(int products) {
         for (int input = 0; input < inputCount(); input++) {
             int count = 0;
             for (int set = 0; set <= input; set++) {
@@ -656,9 +653,8 @@ public final class Gatesquare {
         return true;
     }
 
-    private boolean isBestOrderSound() {
-        int table = bench.outputTable(now.zero);
-        drawing.draw(table, now.lines, findBestOrder(table));
+    private boolean isBestOrderSound(int table, int best) {
+        drawing.draw(table, now.lines, best);
         int fewest = drawing.count;
         for (int order = 0; order < Orders.end(now.lines); order++) {
             if (Orders.isOrder(order, now.lines)) {
@@ -941,13 +937,13 @@ public final class Gatesquare {
         }
 
         int secondOf(int gate) {
-            return kindOf(gate) == NOT ? NONE : at(seconds, gate);
+            return at(seconds, gate);
         }
 
         int add(int kind, int first, int second) {
             put(gateKinds, gates, kind);
             put(firsts, gates, first);
-            put(seconds, gates, second);
+            put(seconds, gates, kind == NOT ? NONE : second);
             gates++;
             return wireOf(gates - 1);
         }
@@ -962,8 +958,9 @@ public final class Gatesquare {
 
         /** The set of the wires at which a gate looks. */
         int looksAt(int gate) {
-            int wires = 1 << firstOf(gate);
-            return kindOf(gate) == NOT ? wires : wires | 1 << secondOf(gate);
+            int wires = 1 << at(firsts, gate);
+            int second = at(seconds, gate);
+            return second == NONE ? wires : wires | 1 << second;
         }
 
         int lookersAt(int wire) {
@@ -1022,42 +1019,38 @@ public final class Gatesquare {
         }
 
         int outputTable(Circuit c) {
-            return wireTable(c, c.outputWire);
+            run(c, NONE, 0);
+            return at(tables, c.outputWire);
         }
 
         /** The set of the inputs that tell a fault. */
         int tellers(Circuit c, int stuckWire, int stuckValue) {
-            int right = outputTable(c);
+            run(c, NONE, 0);
+            int right = at(tables, c.outputWire);
             run(c, stuckWire, stuckValue == 1 ? Tables.all(c.lines) : 0);
             return right ^ at(tables, c.outputWire);
         }
 
         private void run(Circuit c, int stuckWire, int stuckTable) {
+            int all = Tables.all(c.lines);
             for (int wire = 0; wire < tables.length; wire++) {
                 tables[wire] = wire == stuckWire ? stuckTable : wire < c.lines ? Tables.ofLine(wire, c.lines) : 0;
             }
-            // a gate may look at later ones: a round more for each that is still behind
+            // a gate may look at one that came later: so there are rounds, until nothing changes
             boolean isSettled = false;
             for (int round = 0; round < c.gates && !isSettled; round++) {
-                isSettled = !runRound(c, stuckWire);
-            }
-        }
-
-        /** Returns whether some wire has changed. */
-        private boolean runRound(Circuit c, int stuckWire) {
-            boolean isChanged = false;
-            int all = Tables.all(c.lines);
-            for (int gate = 0; gate < c.gates; gate++) {
-                int wire = c.wireOf(gate);
-                int first = at(tables, c.firstOf(gate));
-                int second = at(tables, c.secondOf(gate));
-                int table = Tables.combine(c.kindOf(gate), first, second, all);
-                if (wire != stuckWire && table != at(tables, wire)) {
-                    put(tables, wire, table);
-                    isChanged = true;
+                isSettled = true;
+                for (int gate = 0; gate < c.gates; gate++) {
+                    int wire = c.wireOf(gate);
+                    int first = at(tables, c.firstOf(gate));
+                    int second = at(tables, c.secondOf(gate));
+                    int table = Tables.combine(c.kindOf(gate), first, second, all);
+                    if (wire != stuckWire && table != at(tables, wire)) {
+                        put(tables, wire, table);
+                        isSettled = false;
+                    }
                 }
             }
-            return isChanged;
         }
     }
 
@@ -1151,10 +1144,10 @@ public final class Gatesquare {
         private int ones;
         private int let;
 
-        void find(int lineCount, int wantedOnes, int wantedFree) {
-            lines = lineCount;
-            ones = wantedOnes;
-            let = wantedOnes | wantedFree;
+        void find(State now) {
+            lines = now.lines;
+            ones = now.ones;
+            let = now.ones | now.free;
             count = 0;
             for (int cube = 0; cube < 1 << 2 * lines; cube++) {
                 int inputs = isCube(cube) ? inputsOfCube(cube) : 0;
@@ -1253,9 +1246,8 @@ public final class Gatesquare {
 
         /** The bit of an input and its greater neighbour by a line; the bits of single inputs stand before. */
         static long pairBit(int low, int line) {
-            int behind = low >> line + 1 << line;
-            int ahead = low & (1 << line) - 1;
-            return 1L << MOST_INPUTS + 8 * line + (behind | ahead);
+            int withoutLine = (low >> (line + 1)) << line | low & ((1 << line) - 1);
+            return 1L << (MOST_INPUTS + 8 * line + withoutLine);
         }
 
         private long pairsIn(int inputs) {
@@ -1442,10 +1434,12 @@ public final class Gatesquare {
             }
             for (int next = place; next < lines; next++) {
                 int line = Orders.lineAt(order, next, lines);
-                if (Tables.hangsOn(table, line)) {
-                    int low = nodeOf(Tables.lowOf(table, line), next + 1);
-                    int high = nodeOf(Tables.highOf(table, line), next + 1);
-                    return add(table, line, low, high);
+                int low = Tables.lowOf(table, line);
+                int high = Tables.highOf(table, line);
+                if (low != high) {
+                    int lowNode = nodeOf(low, next + 1);
+                    int highNode = nodeOf(high, next + 1);
+                    return add(table, line, lowNode, highNode);
                 }
             }
             return 0;
