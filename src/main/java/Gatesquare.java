@@ -1421,7 +1421,7 @@ public final class Gatesquare {
 
         /** The number of the node or end of a function that hangs on no line ahead of a place. */
         private int nodeOf(int table, int place) {
-            if (table == 0) {
+            if (table == 0 || place > lines) {
                 return 0;
             }
             if (table == Tables.all(lines)) {

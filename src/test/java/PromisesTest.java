@@ -444,6 +444,7 @@ public final class PromisesTest {
         due(wanting("-1110-110001000-").needed(), "-1-0 11--");
         due(wanting("00000000").needed(), "");
         due(wanting("11-1").needed(), "--");
+        due(wanting("1001").needed(), "00 11");
         due(wanting("00110101").primes(), "-10 1-1 11-");
         due(wanting("00110101").needed(), "-10 1-1");
         due(wanting("001-0101").needed(), "-10 1-1");
@@ -501,6 +502,9 @@ public final class PromisesTest {
         due(wanting("1111").race(), "-");
         due(wanting("001-0101").race(), "-");
         due(wanting("0000000000110101").race(), "11 15");
+        due(wanting("10101100").race(), "0 4");
+        due(wanting("10101100").cover(true), "-01 0-0 00-");
+        due(wanting("11100100").race(), "0 1");
     }
 
     private static void sum() {
@@ -559,6 +563,9 @@ public final class PromisesTest {
         x.rewire(1, 0, 0, 2);
         x.rewire(1, 0, 1, 2);
         due(x.diagram(1), "c1 0;a2 1");
+        Gatesquare nor = square(2);
+        nor.output(0, nor.gate(0, 5, 0, 1));
+        due(nor.diagram(0), "b1 0;a2 0");
         refused(INDEX, () -> x.diagram(2));
         refused(INDEX, () -> x.diagram(-1));
     }
@@ -863,9 +870,13 @@ public final class PromisesTest {
 
     private static void digest() {
         Gatesquare x = usual();
-        x.want(3, 1);
+        x.want(1, 2);
+        for (int input : new int[] {2, 3, 5, 7}) {
+            x.want(input, 1);
+        }
+        x.want(1, 0);
+        due(x.cover(false).length() < x.cover(true).length(), true);
         x.want(4, 2);
-        x.want(5, 1);
         x.gate(1, 0, 1, 0);
         x.blank();
         x.knock();
