@@ -23,6 +23,8 @@ public final class Gatesquare {
     private final PrimeList primeList = new PrimeList();
     private final Choice choice = new Choice();
     private final Drawing drawing = new Drawing();
+    /** All texts are written here: what a run makes is counted, so no call makes a builder of its own. */
+    private final StringBuilder pen = new StringBuilder();
     private int blanks;
     private int knocks;
 
@@ -202,16 +204,16 @@ public final class Gatesquare {
 
     public String primes() {
         primeList.find(now);
-        return primeList.textOf(primeList.everyOne());
+        return primeText(primeList.everyOne());
     }
 
     public String needed() {
         primeList.find(now);
-        return primeList.textOf(primeList.neededOnes());
+        return primeText(primeList.neededOnes());
     }
 
     public String cover(boolean isCalm) {
-        return primeList.textOf(chooseCover(isCalm));
+        return primeText(chooseCover(isCalm));
     }
 
     public int ofCover(boolean isCalm, int what) throws IllegalArgumentException {
@@ -237,7 +239,7 @@ public final class Gatesquare {
             for (int line = 0; line < MOST_LINES; line++) {
                 int high = low | 1 << line;
                 if (high != low && (races & PrimeList.pairBit(low, line)) != 0) {
-                    return new StringBuilder().append(low).append(' ').append(high).toString();
+                    return newText().append(low).append(' ').append(high).toString();
                 }
             }
         }
@@ -249,7 +251,7 @@ public final class Gatesquare {
         if (products == 0) {
             return "0";
         }
-        StringBuilder text = new StringBuilder();
+        StringBuilder text = newText();
         for (int set = 0; set < inputCount(); set++) {
             if (Tables.has(products, set)) {
                 if (text.length() > 0) {
@@ -276,7 +278,9 @@ public final class Gatesquare {
     public String diagram(int circuit) throws IndexOutOfBoundsException {
         Circuit c = circuitAt(circuit);
         drawing.draw(bench.outputTable(c), now.lines, now.order);
-        return drawing.asText();
+        StringBuilder text = newText();
+        drawing.writeTo(text);
+        return text.toString();
     }
 
     public int nodes(int circuit) throws IndexOutOfBoundsException {
@@ -288,7 +292,7 @@ public final class Gatesquare {
     public String bestOrder(int circuit) throws IndexOutOfBoundsException {
         Circuit c = circuitAt(circuit);
         int best = findBestOrder(bench.outputTable(c));
-        StringBuilder text = new StringBuilder();
+        StringBuilder text = newText();
         for (int place = 0; place < now.lines; place++) {
             text.append(letter(Orders.lineAt(best, place, now.lines)));
         }
@@ -357,7 +361,7 @@ public final class Gatesquare {
 
     public String tests(int circuit) throws IndexOutOfBoundsException {
         int chosen = chooseTests(circuitAt(circuit));
-        StringBuilder text = new StringBuilder();
+        StringBuilder text = newText();
         for (int input = 0; input < inputCount(); input++) {
             if (Tables.has(chosen, input)) {
                 if (text.length() > 0) {
@@ -543,6 +547,12 @@ public final class Gatesquare {
         return choice.choose();
     }
 
+    private String primeText(int chosen) {
+        StringBuilder text = newText();
+        primeList.writeTo(text, chosen);
+        return text.toString();
+    }
+
     private static void addProduct(StringBuilder text, int set) {
         if (set == 0) {
             text.append('1');
@@ -556,7 +566,7 @@ public final class Gatesquare {
 
     /** A sign for each input: "-" where it is free, otherwise "1" or "0". */
     private String tableText(int ones, int free) {
-        StringBuilder text = new StringBuilder();
+        StringBuilder text = newText();
         for (int input = 0; input < inputCount(); input++) {
             if (Tables.has(free, input)) {
                 text.append('-');
@@ -565,6 +575,11 @@ public final class Gatesquare {
             }
         }
         return text.toString();
+    }
+
+    private StringBuilder newText() {
+        pen.setLength(0);
+        return pen;
     }
 
     private static char letter(int line) {
@@ -1214,8 +1229,7 @@ public final class Gatesquare {
             return signs;
         }
 
-        String textOf(int chosen) {
-            StringBuilder text = new StringBuilder();
+        void writeTo(StringBuilder text, int chosen) {
             for (int prime = 0; prime < count; prime++) {
                 if (Tables.has(chosen, prime)) {
                     if (text.length() > 0) {
@@ -1224,7 +1238,6 @@ public final class Gatesquare {
                     addCube(text, at(cubes, prime));
                 }
             }
-            return text.toString();
         }
 
         /** The pairs of neighbours that are 1 and in no chosen prime together, by pairBit(). */
@@ -1404,8 +1417,7 @@ public final class Gatesquare {
             root = nodeOf(table, 0);
         }
 
-        String asText() {
-            StringBuilder text = new StringBuilder();
+        void writeTo(StringBuilder text) {
             if (count == 0) {
                 text.append(root);
             }
@@ -1416,7 +1428,6 @@ public final class Gatesquare {
                 text.append(letter(at(nodeLines, node))).append(at(lows, node));
                 text.append(' ').append(at(highs, node));
             }
-            return text.toString();
         }
 
         /** The number of the node or end of a function that hangs on no line ahead of a place. */
