@@ -13,6 +13,9 @@ final class CircuitEdges {
     static void run() {
         aNewSquare();
         aNewSquareIsItsOwn();
+        numbersStartWithZero();
+        noneIsBelow();
+        linesByLetter();
         oneToFourLines();
         allGoesByLines();
         countsStayByLines();
@@ -95,6 +98,49 @@ final class CircuitEdges {
         untouched.lines(1);
         untouched.want(0, 2);
         Check.due(Check.picture(other), full);
+    }
+
+    private static void numbersStartWithZero() {
+        Check.sentence(Check.DESCRIPTION, "Numbers of things start with 0.");
+        Gatesquare x = Squares.narrow();
+        Check.due(x.value(0, 0, 0), 0);
+        Check.due(x.ofGate(0, 0, 1), 0);
+        Check.due(x.input(0, 0), 0);
+        Check.due(x.wantKnown(0), 1);
+        Check.due(x.house(0), 1);
+        Check.refused(Check.INDEX, NARROW, y -> y.value(-1, 0, 0));
+        Check.refused(Check.INDEX, NARROW, y -> y.value(0, -1, 0));
+        Check.refused(Check.INDEX, NARROW, y -> y.value(0, 0, -1));
+        Check.refused(Check.INDEX, NARROW, y -> y.ofGate(0, -1, 1));
+        Check.refused(Check.ARGUMENT, NARROW, y -> y.ofGate(0, 0, -1));
+        Check.refused(Check.ELEMENT, NARROW, y -> y.input(0, -1));
+    }
+
+    private static void noneIsBelow() {
+        Check.sentence(Check.DESCRIPTION, "NONE is -1.");
+        Gatesquare x = Squares.usual();
+        Check.due(x.ofGate(0, 1, 2), -1);
+        Check.due(x.rewire(0, 0, 0, 0), -1);
+        Check.due(x.alter(0, 0, 1), -1);
+        Check.due(new Gatesquare().parts(), -1);
+    }
+
+    private static void linesByLetter() {
+        Check.sentence(Check.DESCRIPTION, "There are n LINES (1 to 4; 3 at first), \"a\" to \"d\", numbers 0 to n - 1.");
+        Check.due(new Gatesquare().house(0), 3);
+        for (int n = 1; n <= 4; n++) {
+            int lines = n;
+            Gatesquare x = Squares.ofLines(n);
+            for (int line = 0; line < n; line++) {
+                Check.due(x.output(0, line), Math.max(0, line - 1));
+                Check.due(x.diagram(0), "abcd".charAt(line) + "0 1");
+                x.wantTable(0);
+                Check.due(x.sum(), "abcd".substring(line, line + 1));
+            }
+            Check.due(x.bestOrder(0), "abcd".substring(0, n));
+            Check.refused(Check.INDEX, Squares.wide(n), y -> y.output(0, lines));
+            Check.refused(Check.INDEX, Squares.wide(n), y -> y.table(0, lines));
+        }
     }
 
     private static void oneToFourLines() {
@@ -257,6 +303,7 @@ final class CircuitEdges {
     }
 
     private static void atMostTwelveGates() {
+        Check.sentence(Check.DESCRIPTION, "Each has GATES, at most 12");
         Check.sentence(3, "if there are 12");
         Gatesquare x = Squares.ofLines(2);
         for (int gate = 0; gate < 12; gate++) {

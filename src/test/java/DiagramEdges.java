@@ -218,6 +218,15 @@ final class DiagramEdges {
         Check.due(Squares.ofGates(4, MOST_NODES).bestOrder(0), "adcb");
         Check.due(Squares.ofGates(4, "4,3,2 5,4,1 2,1,0 0,2,1 3,7,3 2,1,8 3,6,4 2,10,9 3,2,3 5,1,10 2,12,13").bestOrder(0), "cdab");
         Check.due(Squares.ofGates(3, "1,0,1 5,1,2 2,3,4").bestOrder(0), "bac");
+        // the best order of a function may have 8 nodes, and not more
+        Gatesquare wide = Squares.ofGates(4, "3,1,3 3,3,2 3,5,0 4,3,2 3,1,7 4,6,8");
+        Check.due(wide.order(3, 2, 1, 0), 8);
+        Check.due(wide.bestOrder(0), "abcd");
+        Check.due(wide.nodes(0), 8);
+        Gatesquare other = Squares.ofGates(4, "0,0,3 5,3,4 2,3,5 1,2,6 4,6,5 2,1,5 3,7,9 3,0,10");
+        Check.due(other.nodes(0), 9);
+        Check.due(other.bestOrder(0), "abdc");
+        Check.due(other.order(0, 1, 3, 2), 8);
         Check.due(Squares.ofGates(3, "1,0,1 0,0,0 1,4,2 2,3,5").bestOrder(0), "abc");
     }
 

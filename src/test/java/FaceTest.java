@@ -125,6 +125,7 @@ public final class FaceTest {
                 + "|instanceof|Object|Exact)\\b"}) {
             check(!bare.matches("(?s).*(" + word + ").*"), "the source has " + word);
         }
+        check(bare.split("new StringBuilder").length == 2, "more builders than one");
         long imports = Stream.of(bare.split("\n")).filter(line -> line.startsWith("import")).count();
         check(imports == 1 && bare.contains("import java.util.NoSuchElementException;"), "imports");
         int start = -1;

@@ -12,6 +12,7 @@ final class FaultEdges {
 
     static void run() {
         tellsNeedsItsFault();
+        setsOfNumbers();
         faultsOfLines();
         faultsOfTheOutput();
         faultsOfGates();
@@ -49,6 +50,22 @@ final class FaultEdges {
             Check.refused(Check.ARGUMENT, USUAL, x -> x.tells(0, 5, value));
             Check.refused(Check.ARGUMENT, FULL, x -> x.tells(1, 15, value));
         }
+    }
+
+    private static void setsOfNumbers() {
+        Check.sentence(Check.DESCRIPTION, "A set is the sum of 2^k for the numbers k in it.");
+        Gatesquare x = Squares.ofGates(4, "1,0,1 1,2,3 1,4,5");
+        Check.due(x.tells(0, 6, 0), 32768);
+        Check.due(x.tells(0, 6, 1), 32767);
+        Check.due(x.tells(0, 0, 1), 16384);
+        Check.due(x.kinds(0), 1 + 2 + 4 + 32);
+        Check.due(Squares.ofLines(1).kinds(0), 63);
+        Check.due(Squares.ofGates(4, "0,3,0 1,4,0").kinds(0), 1);
+        Gatesquare never = Squares.ofGates(4, "3,0,0");
+        Check.due(never.tells(0, 4, 1), 65535);
+        Check.due(never.tells(0, 4, 0), 0);
+        Check.due(x.makesAll(1 + 2), true);
+        Check.due(x.makesAll(1 + 8), false);
     }
 
     private static void faultsOfLines() {

@@ -29,6 +29,7 @@ final class WantedEdges {
         primesAsTheyStand();
         neededPrimes();
         coversOfNothing();
+        signsOfCubes();
         coverOfTheFewestSigns();
         coverThatIsFirst();
         calmCovers();
@@ -316,6 +317,17 @@ final class WantedEdges {
                     Check.due(x.ofCover(true, what), 0);
                 }
             }
+        }
+    }
+
+    private static void signsOfCubes() {
+        Check.sentence(Check.DESCRIPTION, "SIGNS of a CUBE: how many \"0\" and \"1\" it has.");
+        String[] tables = {"1111111111111111", "1010101010101010", "0001000100010001", "0000001000000010", "0000000000100000"};
+        for (int signs = 0; signs < tables.length; signs++) {
+            Gatesquare x = Squares.wanting(tables[signs]);
+            Check.due(x.ofCover(false, 0), 1);
+            Check.due(x.ofCover(false, 1), signs);
+            Check.due(x.ofCover(true, 1), signs);
         }
     }
 
