@@ -21,21 +21,41 @@ final class Check {
     static final List<Quote> quotes = new ArrayList<>();
     static int asked = 0;
     static int wrong = 0;
-    private static Quote now;
+    /** The sentences that are tested now: those that were told one right after the other. */
+    private static final List<Quote> now = new ArrayList<>();
+    private static boolean isAnswered = false;
 
     private Check() {
     }
 
-    /** From here on it is this sentence that is tested. */
+    /** Each test by itself: one that is stopped by the program does not hide those behind it. */
+    static void each(Runnable... tests) {
+        for (Runnable test : tests) {
+            now.clear();
+            try {
+                test.run();
+            } catch (RuntimeException | StackOverflowError e) {
+                complain("is stopped by " + e, e);
+            }
+        }
+    }
+
+    /** From here on it is this sentence that is tested, with another one that is told right behind it. */
     static void sentence(int promise, String words) {
-        now = new Quote(promise, words);
-        quotes.add(now);
+        if (isAnswered) {
+            now.clear();
+        }
+        isAnswered = false;
+        Quote quote = new Quote(promise, words);
+        now.add(quote);
+        quotes.add(quote);
     }
 
     static void due(Object got, Object due) {
         asked++;
+        isAnswered = true;
         if (!due.equals(got)) {
-            complain("answered " + got + ", due is " + due);
+            complain("answered " + got + ", due is " + due, new Throwable());
         }
     }
 
@@ -102,16 +122,19 @@ final class Check {
         return java.util.Arrays.stream(drawn).filter(k -> k < first || k > last).distinct().toArray();
     }
 
-    private static void complain(String what) {
+    private static void complain(String what, Throwable where) {
         wrong++;
-        StackTraceElement[] calls = new Throwable().getStackTrace();
         String place = "";
-        for (StackTraceElement call : calls) {
-            if (!call.getClassName().equals("Check") && place.isEmpty()) {
+        for (StackTraceElement call : where.getStackTrace()) {
+            boolean isTest = !call.getClassName().equals("Check") && !call.getClassName().startsWith("Gatesquare");
+            if (isTest && call.getModuleName() == null && place.isEmpty()) {
                 place = call.getFileName() + ":" + call.getLineNumber();
             }
         }
-        String words = now == null ? "" : ", promise " + now.promise() + " \"" + now.words() + "\"";
-        System.out.println(place + words + ": " + what);
+        StringBuilder sentences = new StringBuilder();
+        for (Quote quote : now) {
+            sentences.append(", promise ").append(quote.promise()).append(" \"").append(quote.words()).append('"');
+        }
+        System.out.println(place + sentences + ": " + what);
     }
 }

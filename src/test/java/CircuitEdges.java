@@ -11,48 +11,24 @@ final class CircuitEdges {
     }
 
     static void run() {
-        aNewSquare();
-        aNewSquareIsItsOwn();
-        numbersStartWithZero();
-        noneIsBelow();
-        linesByLetter();
-        oneToFourLines();
-        allGoesByLines();
-        countsStayByLines();
-        inputsOfEachWidth();
-        wiresOfEachWidth();
-        theLastWireIsTaken();
-        aGateNeedsItsWires();
-        notLooksAtOneWire();
-        aGateNeedsItsKind();
-        atMostTwelveGates();
-        theFirstRefusalOfGate();
-        kindsOfGatesByAllDigits();
-        ungateTakesTheLast();
-        ungateNeedsOneThatIsFree();
-        rewireNeedsItsPlace();
-        rewireNeedsItsSide();
-        noRings();
-        aLaterGateIsSeen();
-        theFirstRefusalOfRewire();
-        rewireTellsTheFirstInput();
-        alterNeedsItsGate();
-        alterKeepsNotApart();
-        theFirstRefusalOfAlter();
-        alterTellsTheFirstInput();
-        theOutputIsAWire();
-        outputTellsThatBefore();
-        valueNeedsItsPlace();
-        tableNeedsItsWire();
-        tablesOfEachWidth();
-        ofGateNeedsItsGate();
-        ofGateNeedsItsNumber();
-        levels();
-        gatesThatLook();
-        gatesThatCount();
-        ofCircuitNeedsItsNumber();
-        ofCircuitEmptyAndFull();
-        linesOnWhichTheOutputHangs();
+        Check.each(
+                CircuitEdges::aNewSquare, CircuitEdges::aNewSquareIsItsOwn, CircuitEdges::numbersStartWithZero,
+                CircuitEdges::noneIsBelow, CircuitEdges::linesByLetter, CircuitEdges::oneToFourLines,
+                CircuitEdges::allGoesByLines, CircuitEdges::countsStayByLines, CircuitEdges::inputsOfEachWidth,
+                CircuitEdges::wiresOfEachWidth, CircuitEdges::theLastWireIsTaken, CircuitEdges::aGateNeedsItsWires,
+                CircuitEdges::notLooksAtOneWire, CircuitEdges::aGateNeedsItsKind, CircuitEdges::atMostTwelveGates,
+                CircuitEdges::theFirstRefusalOfGate, CircuitEdges::kindsOfGatesByAllDigits,
+                CircuitEdges::ungateTakesTheLast, CircuitEdges::ungateNeedsOneThatIsFree,
+                CircuitEdges::rewireNeedsItsPlace, CircuitEdges::rewireNeedsItsSide, CircuitEdges::noRings,
+                CircuitEdges::aLaterGateIsSeen, CircuitEdges::theFirstRefusalOfRewire,
+                CircuitEdges::rewireTellsTheFirstInput, CircuitEdges::alterNeedsItsGate,
+                CircuitEdges::alterKeepsNotApart, CircuitEdges::theFirstRefusalOfAlter,
+                CircuitEdges::alterTellsTheFirstInput, CircuitEdges::theOutputIsAWire,
+                CircuitEdges::outputTellsThatBefore, CircuitEdges::valueNeedsItsPlace,
+                CircuitEdges::tableNeedsItsWire, CircuitEdges::tablesOfEachWidth, CircuitEdges::ofGateNeedsItsGate,
+                CircuitEdges::ofGateNeedsItsNumber, CircuitEdges::levels, CircuitEdges::gatesThatLook,
+                CircuitEdges::gatesThatCount, CircuitEdges::ofCircuitNeedsItsNumber,
+                CircuitEdges::ofCircuitEmptyAndFull, CircuitEdges::linesOnWhichTheOutputHangs);
     }
 
     private static void aNewSquare() {

@@ -17,24 +17,15 @@ final class DiagramEdges {
     }
 
     static void run() {
-        orderAtFirst();
-        orderHasEachLineOnce();
-        orderOutside();
-        orderBehindIsNotLookedAt();
-        orderTellsTheNodesThen();
-        diagramsNeedTheirCircuit();
-        ends();
-        theFirstLineOnWhichItHangs();
-        likeNodesAreThereOnce();
-        numbersOfNodes();
-        fewestAndMostNodes();
-        bestOrderByLetters();
-        bestOrderLeavesTheOrder();
-        inputNeedsItsCircuit();
-        inputNeedsItsNumber();
-        inputOfNoneAndAll();
-        circuitsThatAreAlike();
-        whereCircuitsPart();
+        Check.each(
+                DiagramEdges::orderAtFirst, DiagramEdges::orderHasEachLineOnce, DiagramEdges::orderOutside,
+                DiagramEdges::orderBehindIsNotLookedAt, DiagramEdges::orderTellsTheNodesThen,
+                DiagramEdges::diagramsNeedTheirCircuit, DiagramEdges::ends,
+                DiagramEdges::theFirstLineOnWhichItHangs, DiagramEdges::likeNodesAreThereOnce,
+                DiagramEdges::numbersOfNodes, DiagramEdges::fewestAndMostNodes, DiagramEdges::bestOrderByLetters,
+                DiagramEdges::bestOrderLeavesTheOrder, DiagramEdges::inputNeedsItsCircuit,
+                DiagramEdges::inputNeedsItsNumber, DiagramEdges::inputOfNoneAndAll,
+                DiagramEdges::circuitsThatAreAlike, DiagramEdges::whereCircuitsPart);
     }
 
     private static Gatesquare odd(int lines) {

@@ -11,22 +11,13 @@ final class FaultEdges {
     }
 
     static void run() {
-        tellsNeedsItsFault();
-        setsOfNumbers();
-        faultsOfLines();
-        faultsOfTheOutput();
-        faultsOfGates();
-        testNeedsItsFault();
-        testOfASilentFault();
-        testIsTheFirst();
-        fewestAndMostSilent();
-        testsAreTheFewest();
-        testsAreTheFirst();
-        testsAreNeverNone();
-        circuitsOfFaults();
-        kindsOfFunctions();
-        kindsOfTheSame();
-        setsOfGates();
+        Check.each(
+                FaultEdges::tellsNeedsItsFault, FaultEdges::setsOfNumbers, FaultEdges::faultsOfLines,
+                FaultEdges::faultsOfTheOutput, FaultEdges::faultsOfGates, FaultEdges::testNeedsItsFault,
+                FaultEdges::testOfASilentFault, FaultEdges::testIsTheFirst, FaultEdges::fewestAndMostSilent,
+                FaultEdges::testsAreTheFewest, FaultEdges::testsAreTheFirst, FaultEdges::testsAreNeverNone,
+                FaultEdges::circuitsOfFaults, FaultEdges::kindsOfFunctions, FaultEdges::kindsOfTheSame,
+                FaultEdges::setsOfGates);
     }
 
     private static void tellsNeedsItsFault() {
@@ -260,7 +251,7 @@ final class FaultEdges {
     }
 
     private static void kindsOfFunctions() {
-        Check.sentence(Check.DESCRIPTION, "0 it keeps 0 (0 by the INPUT 0), 1 it keeps 1 (1 by the last INPUT), 2 RISING: with a LINE 1 in place of 0 it is never 0 in place of 1, 3 TURNED: by the INPUT with all digits turned it is turned, 4 STRAIGHT: its products (as with SUM) have one LINE at most each, 5 EVEN-HANDED: it is the same with any two LINES exchanged for each other.");
+        Check.sentence(Check.DESCRIPTION, "KINDS of a function: 0 it keeps 0 (0 by the INPUT 0), 1 it keeps 1 (1 by the last INPUT), 2 RISING: with a LINE 1 in place of 0 it is never 0 in place of 1, 3 TURNED: by the INPUT with all digits turned it is turned, 4 STRAIGHT: its products (as with SUM) have one LINE at most each, 5 EVEN-HANDED: it is the same with any two LINES exchanged for each other.");
         dueKinds(1, "2,0,0", "0 1 2 3 4 5");
         dueKinds(1, "0,0,0", "3 4 5");
         dueKinds(2, "1,0,1", "0 1 2 5");

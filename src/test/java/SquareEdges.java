@@ -45,26 +45,15 @@ final class SquareEdges {
     }
 
     static void run() {
-        nothingToUndo();
-        eachChangeIsUndone();
-        changesOfNothingAreUndone();
-        questionsAreNotUndone();
-        refusalsAreNotUndone();
-        undoForgetsTheNinth();
-        theNinthOfEachName();
-        undoAndOn();
-        linesAreNotUndone();
-        blanksAndKnocksAreNotUndone();
-        blanks();
-        knocks();
-        houseNeedsItsNumber();
-        houseEmptyAndFull();
-        questionsChangeNothing();
-        soundEverywhere();
-        digestsOfFreshSquares();
-        digestsWrapAround();
-        wholeUseOfDigests();
-        wholeUseOfChanges();
+        Check.each(
+                SquareEdges::nothingToUndo, SquareEdges::eachChangeIsUndone, SquareEdges::changesOfNothingAreUndone,
+                SquareEdges::questionsAreNotUndone, SquareEdges::refusalsAreNotUndone,
+                SquareEdges::undoForgetsTheNinth, SquareEdges::theNinthOfEachName, SquareEdges::undoAndOn,
+                SquareEdges::linesAreNotUndone, SquareEdges::blanksAndKnocksAreNotUndone, SquareEdges::blanks,
+                SquareEdges::knocks, SquareEdges::houseNeedsItsNumber, SquareEdges::houseEmptyAndFull,
+                SquareEdges::questionsChangeNothing, SquareEdges::soundEverywhere,
+                SquareEdges::digestsOfFreshSquares, SquareEdges::digestsWrapAround, SquareEdges::wholeUseOfDigests,
+                SquareEdges::wholeUseOfChanges);
     }
 
     /** A square with just so many calls that can be undone, which are want(0, ..). */
@@ -404,7 +393,7 @@ final class SquareEdges {
         return d;
     }
 
-    private static BigInteger dueDigest(Gatesquare x) {
+    static BigInteger dueDigest(Gatesquare x) {
         BigInteger endless = checksum(numbersOf(x));
         Check.due(x.digest(), endless.longValue());
         BigInteger rest = endless.mod(TWO_TO_64);
@@ -447,7 +436,7 @@ final class SquareEdges {
     }
 
     private static void digestsOfFreshSquares() {
-        Check.sentence(40, "A number d starts with 8509; for each of the following numbers v, d becomes d * 31 + v");
+        Check.sentence(40, "Computes a checksum. A number d starts with 8509; for each of the following numbers v, d becomes d * 31 + v, which wraps around as a 64-bit integer");
         // each number of a new square, as the document has them
         List<Integer> numbers = new java.util.ArrayList<>(List.of(3, 0, 0, 0, 0, 0, 0));
         for (int circuit = 0; circuit < 2; circuit++) {

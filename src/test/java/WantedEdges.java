@@ -12,34 +12,17 @@ final class WantedEdges {
     }
 
     static void run() {
-        wantedAtFirst();
-        wantNeedsItsPlace();
-        wantTellsThatBefore();
-        wantTableNeedsItsCircuit();
-        wantTableEmptyAndFull();
-        wantKnownNeedsItsNumber();
-        knownTables();
-        wantedShowsNoMeaning();
-        cubesAndTheirInputs();
-        cubesThatAreLet();
-        cubesThatArePrimes();
-        primesOfNothing();
-        primesOfEverything();
-        theMostPrimes();
-        primesAsTheyStand();
-        neededPrimes();
-        coversOfNothing();
-        signsOfCubes();
-        coverOfTheFewestSigns();
-        coverThatIsFirst();
-        calmCovers();
-        ofCoverNeedsItsNumber();
-        ofCoverEmptyAndFull();
-        racesOfACover();
-        theFirstRace();
-        sumsOfNothing();
-        sumsOfEverything();
-        sumTakesNoMeaningAsZero();
+        Check.each(
+                WantedEdges::wantedAtFirst, WantedEdges::wantNeedsItsPlace, WantedEdges::wantTellsThatBefore,
+                WantedEdges::wantTableNeedsItsCircuit, WantedEdges::wantTableEmptyAndFull,
+                WantedEdges::wantKnownNeedsItsNumber, WantedEdges::knownTables, WantedEdges::wantedShowsNoMeaning,
+                WantedEdges::cubesAndTheirInputs, WantedEdges::cubesThatAreLet, WantedEdges::cubesThatArePrimes,
+                WantedEdges::primesOfNothing, WantedEdges::primesOfEverything, WantedEdges::theMostPrimes,
+                WantedEdges::primesAsTheyStand, WantedEdges::neededPrimes, WantedEdges::coversOfNothing,
+                WantedEdges::signsOfCubes, WantedEdges::coverOfTheFewestSigns, WantedEdges::coverThatIsFirst,
+                WantedEdges::calmCovers, WantedEdges::ofCoverNeedsItsNumber, WantedEdges::ofCoverEmptyAndFull,
+                WantedEdges::racesOfACover, WantedEdges::theFirstRace, WantedEdges::sumsOfNothing,
+                WantedEdges::sumsOfEverything, WantedEdges::sumTakesNoMeaningAsZero, WantedEdges::tablesOneAfterTheOther);
     }
 
     private static String all(char sign, int lines) {
@@ -490,5 +473,43 @@ final class WantedEdges {
         Check.due(Squares.wanting("1-").sum(), "1^a");
         Check.due(Squares.wanting("011-").sum(), "a^b");
         Check.due(Squares.wanting("0-0-0--1").sum(), "abc");
+    }
+
+    private static String toldOf(Gatesquare x) {
+        StringBuilder told = new StringBuilder(x.wanted());
+        told.append(' ').append(x.primes()).append(" needed ").append(x.needed()).append(" cover ").append(x.cover(false));
+        told.append(" calm ").append(x.cover(true)).append(" race ").append(x.race()).append(" sum ").append(x.sum());
+        for (int what = 0; what < 4; what++) {
+            told.append(' ').append(x.ofCover(false, what)).append(' ').append(x.ofCover(true, what));
+        }
+        return told.append(' ').append(x.house(3)).toString();
+    }
+
+    private static void tablesOneAfterTheOther() {
+        Check.sentence(16, "Returns the PRIMES, with a blank between two; \"\" without any.");
+        Check.sentence(18, "Returns the COVER, likewise.");
+        // what was told of the tables before leaves nothing behind: the next one has fewer primes, or fewer lines
+        String[] tables = {MOST_PRIMES, "1111111111111111", "0110100110010110", "0-11011111101-11", "0000000000000000",
+            "1001111111110110", "100110110-1-1-00", "----------------", "01111110", "1-10001-", "00110101", "--------",
+            "0110", "1--0", "11", "01", "-1", MOST_PRIMES, "01-1-100", "10"};
+        Gatesquare x = null;
+        for (int k = 0; k < tables.length; k++) {
+            x = k % 5 == 0 ? new Gatesquare() : x;
+            String table = tables[k];
+            x.lines(Integer.numberOfTrailingZeros(table.length()));
+            for (int input = 0; input < table.length(); input++) {
+                x.want(input, "01-".indexOf(table.charAt(input)));
+            }
+            Check.due(toldOf(x), toldOf(Squares.wanting(table)));
+        }
+        // one input after the other comes, and goes
+        Gatesquare y = Squares.ofLines(4);
+        StringBuilder table = new StringBuilder(all('0', 4));
+        for (int k = 0; k < 22; k++) {
+            int input = k * 7 % 16;
+            table.setCharAt(input, k < 16 ? '1' : '0');
+            y.want(input, k < 16 ? 1 : 0);
+            Check.due(toldOf(y), toldOf(Squares.wanting(table.toString())));
+        }
     }
 }
