@@ -16,7 +16,6 @@ import java.util.function.Supplier;
 import java.util.regex.Matcher;
 import java.util.regex.Pattern;
 import java.util.stream.Stream;
-import javax.tools.ToolProvider;
 
 /** README.md is right: each call that it shows is made and has the answer that it shows, each command does its work. */
 public final class ReadmeTest {
@@ -109,9 +108,9 @@ public final class ReadmeTest {
         }
         source.append("    }\n}\n");
         Path file = Files.writeString(room.resolve("ReadmeExamples.java"), source);
-        int code = ToolProvider.getSystemJavaCompiler().run(null, System.out, System.out,
-                "-cp", System.getProperty("java.class.path"), "-d", room.toString(), file.toString());
-        if (code != 0) {
+        Process compiler = new ProcessBuilder("javac", "-cp", System.getProperty("java.class.path"), "-d", room.toString(),
+                file.toString()).inheritIO().start();
+        if (compiler.waitFor() != 0) {
             complain(0, "the examples can not be compiled");
             return;
         }
